@@ -300,7 +300,7 @@ public final class GyreWatch {
     }
 
     private static boolean isCell(int cell) {
-        return isIndex(cell, CELLS);
+        return cell >= 0 && cell < CELLS;
     }
 
     private static void needCell(int cell) {
@@ -504,7 +504,7 @@ public final class GyreWatch {
                 return NONE;
             }
             int there = WIDTH * y + x;
-            return isLand(there) ? NONE : there;
+            return isCell(there) && !lands[there] ? there : NONE;
         }
 
         int leadsTo(int cell) {

@@ -150,6 +150,11 @@ public final class ShipTest {
         CHECK.due("8 none anew", 0, x.storm(4, 5));
         CHECK.due("8 the same again", 0, x.storm(3, 8));
         CHECK.due("8 the last", 1, x.storm(1, 1000));
+        GyreWatch behind = new GyreWatch();
+        behind.station(4, 11);
+        behind.station(9, 11);
+        behind.pass(4);
+        CHECK.due("8 those to come alone", 1, behind.storm(9, 9));
         GyreWatch over = new GyreWatch();
         over.storm(1, 3);
         over.station(5, 0);

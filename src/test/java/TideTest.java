@@ -82,6 +82,7 @@ public final class TideTest {
         CHECK.due("29 the first of several", 12, x.highest(1, 100));
         CHECK.due("29 from itself", 0, x.highest(0, 100));
         CHECK.due("29 to itself", 12, x.highest(7, 12));
+        CHECK.due("29 the one behind from", 12, x.highest(11, 13));
         CHECK.due("29 rising", 11, x.highest(7, 11));
         CHECK.due("29 falling", 13, x.highest(13, 17));
         CHECK.due("29 one time", 6, x.highest(6, 6));
