@@ -66,7 +66,7 @@ public final class OracleTest {
     }
 
     private int between(int least, int most) {
-        return least + draw(most - least + 1);
+        return most <= least || most - least < 0 ? least : least + draw(most - least + 1);
     }
 
     /** Now and then just beyond its range, or an int far from it. */
