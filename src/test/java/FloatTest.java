@@ -24,19 +24,6 @@ public final class FloatTest {
         CHECK.end();
     }
 
-    private static void nothing(GyreWatch x) {
-    }
-
-    private static void oneFloat(GyreWatch x) {
-        x.lay(5, 2, 3, 1);
-    }
-
-    private static void eightFloats(GyreWatch x) {
-        for (int i = 0; i < 8; i++) {
-            x.lay(i, 1, 1, 0);
-        }
-    }
-
     private static void promise6() {
         GyreWatch x = new GyreWatch();
         CHECK.due("6 first", 0, x.lay(0, 20, 100, 50));
@@ -54,7 +41,7 @@ public final class FloatTest {
 
     private static void promise6ParksAndRises() {
         GyreWatch x = new GyreWatch();
-        oneFloat(x);
+        Builds.oneFloat(x);
         x.pass(1);
         CHECK.due("6 parks", 1, x.ofFloat(0, 1));
         CHECK.due("6 does not read", 0, x.readings());
@@ -147,36 +134,25 @@ public final class FloatTest {
         CHECK.due("6 it drifts all the same", 11, x.ofFloat(1, 0));
         x.pass(1);
         CHECK.due("6 DEAD without a reading kept", 0, x.ofFloat(1, 1));
-        CHECK.index("6 reading 100", FloatTest::manyReadings, y -> y.ofReading(100, 0));
-    }
-
-    private static void manyReadings(GyreWatch x) {
-        eightFloatsOfLongLife(x);
-        x.pass(15);
-    }
-
-    private static void eightFloatsOfLongLife(GyreWatch x) {
-        for (int i = 0; i < 8; i++) {
-            x.lay(i, 1, 100, 0);
-        }
+        CHECK.index("6 reading 100", Builds::hundredReadings, y -> y.ofReading(100, 0));
     }
 
     private static void promise6Refused() {
-        CHECK.index("6 below", FloatTest::nothing, x -> x.lay(-1, 1, 1, 0));
-        CHECK.index("6 above", FloatTest::nothing, x -> x.lay(60, 1, 1, 0));
-        CHECK.index("6 first of three", FloatTest::eightFloats, x -> x.lay(60, 0, 1, 0));
-        CHECK.argument("6 parks below", FloatTest::nothing, x -> x.lay(0, 0, 1, 0));
-        CHECK.argument("6 parks above", FloatTest::nothing, x -> x.lay(0, 21, 1, 0));
-        CHECK.argument("6 battery below", FloatTest::nothing, x -> x.lay(0, 1, 0, 0));
-        CHECK.argument("6 battery above", FloatTest::nothing, x -> x.lay(0, 1, 101, 0));
-        CHECK.argument("6 bias below", FloatTest::nothing, x -> x.lay(0, 1, 1, -51));
-        CHECK.argument("6 bias above", FloatTest::nothing, x -> x.lay(0, 1, 1, 51));
-        CHECK.argument("6 first of two", FloatTest::eightFloats, x -> x.lay(0, 1, 1, 51));
+        CHECK.index("6 below", Builds::nothing, x -> x.lay(-1, 1, 1, 0));
+        CHECK.index("6 above", Builds::nothing, x -> x.lay(60, 1, 1, 0));
+        CHECK.index("6 first of three", Builds::eightFloats, x -> x.lay(60, 0, 1, 0));
+        CHECK.argument("6 parks below", Builds::nothing, x -> x.lay(0, 0, 1, 0));
+        CHECK.argument("6 parks above", Builds::nothing, x -> x.lay(0, 21, 1, 0));
+        CHECK.argument("6 battery below", Builds::nothing, x -> x.lay(0, 1, 0, 0));
+        CHECK.argument("6 battery above", Builds::nothing, x -> x.lay(0, 1, 101, 0));
+        CHECK.argument("6 bias below", Builds::nothing, x -> x.lay(0, 1, 1, -51));
+        CHECK.argument("6 bias above", Builds::nothing, x -> x.lay(0, 1, 1, 51));
+        CHECK.argument("6 first of two", Builds::eightFloats, x -> x.lay(0, 1, 1, 51));
         CHECK.argument("6 on LAND too", x -> x.land(0), x -> x.lay(0, 1, 1, 51));
         CHECK.state("6 LAND", x -> x.land(0), x -> x.lay(0, 1, 1, 0));
-        CHECK.state("6 ninth", FloatTest::eightFloats, x -> x.lay(0, 1, 1, 0));
+        CHECK.state("6 ninth", Builds::eightFloats, x -> x.lay(0, 1, 1, 0));
         CHECK.state("6 ninth, all DEAD", x -> {
-            eightFloats(x);
+            Builds.eightFloats(x);
             x.pass(1);
         }, x -> x.lay(0, 1, 1, 0));
     }
@@ -298,17 +274,17 @@ public final class FloatTest {
     }
 
     private static void promise9Refused() {
-        CHECK.index("9 no float", FloatTest::nothing, x -> x.calibrate(0));
-        CHECK.index("9 below", FloatTest::oneFloat, x -> x.calibrate(-1));
-        CHECK.index("9 above", FloatTest::oneFloat, x -> x.calibrate(1));
-        CHECK.index("9 far above", FloatTest::eightFloats, x -> x.calibrate(8));
-        CHECK.state("9 without a reading", FloatTest::oneFloat, x -> x.calibrate(0));
+        CHECK.index("9 no float", Builds::nothing, x -> x.calibrate(0));
+        CHECK.index("9 below", Builds::oneFloat, x -> x.calibrate(-1));
+        CHECK.index("9 above", Builds::oneFloat, x -> x.calibrate(1));
+        CHECK.index("9 far above", Builds::eightFloats, x -> x.calibrate(8));
+        CHECK.state("9 without a reading", Builds::oneFloat, x -> x.calibrate(0));
         CHECK.state("9 without a ship", x -> {
-            oneFloat(x);
+            Builds.oneFloat(x);
             x.pass(2);
         }, x -> x.calibrate(0));
         CHECK.state("9 the ship did not read", x -> {
-            oneFloat(x);
+            Builds.oneFloat(x);
             x.station(2, 5);
             x.storm(2, 2);
             x.pass(2);
@@ -329,12 +305,12 @@ public final class FloatTest {
             CHECK.due("18 what " + what, due[what], x.ofFloat(0, what));
             CHECK.due("18 of the second " + what, second[what], x.ofFloat(1, what));
         }
-        CHECK.index("18 no float", FloatTest::nothing, y -> y.ofFloat(0, 0));
-        CHECK.index("18 below", FloatTest::oneFloat, y -> y.ofFloat(-1, 0));
-        CHECK.index("18 above", FloatTest::oneFloat, y -> y.ofFloat(1, 0));
-        CHECK.index("18 far above", FloatTest::eightFloats, y -> y.ofFloat(8, 0));
-        CHECK.index("18 first of two", FloatTest::oneFloat, y -> y.ofFloat(1, 5));
-        CHECK.argument("18 what below", FloatTest::oneFloat, y -> y.ofFloat(0, -1));
-        CHECK.argument("18 what above", FloatTest::oneFloat, y -> y.ofFloat(0, 5));
+        CHECK.index("18 no float", Builds::nothing, y -> y.ofFloat(0, 0));
+        CHECK.index("18 below", Builds::oneFloat, y -> y.ofFloat(-1, 0));
+        CHECK.index("18 above", Builds::oneFloat, y -> y.ofFloat(1, 0));
+        CHECK.index("18 far above", Builds::eightFloats, y -> y.ofFloat(8, 0));
+        CHECK.index("18 first of two", Builds::oneFloat, y -> y.ofFloat(1, 5));
+        CHECK.argument("18 what below", Builds::oneFloat, y -> y.ofFloat(0, -1));
+        CHECK.argument("18 what above", Builds::oneFloat, y -> y.ofFloat(0, 5));
     }
 }

@@ -20,14 +20,6 @@ public final class MapTest {
         CHECK.end();
     }
 
-    private static void nothing(GyreWatch x) {
-    }
-
-    private static void oneReading(GyreWatch x) {
-        x.lay(5, 1, 1, 3);
-        x.pass(1);
-    }
-
     /** Readings of the day 1: 1010 in the cell 0, 980 in 33. */
     private static void twoReadings(GyreWatch x) {
         x.sun(0, 10);
@@ -142,25 +134,25 @@ public final class MapTest {
     }
 
     private static void promise22Refused() {
-        CHECK.index("22 below", MapTest::oneReading, x -> x.mean(-1, 1, 0));
-        CHECK.index("22 above", MapTest::oneReading, x -> x.mean(60, 1, 0));
-        CHECK.index("22 first of two", MapTest::oneReading, x -> x.mean(60, -1, 0));
-        CHECK.argument("22 day below", MapTest::oneReading, x -> x.mean(5, -1, 5));
-        CHECK.argument("22 day above", MapTest::oneReading, x -> x.mean(5, 1001, 1000));
-        CHECK.argument("22 span below", MapTest::oneReading, x -> x.mean(5, 1, -1));
-        CHECK.argument("22 span above", MapTest::oneReading, x -> x.mean(5, 1, 1001));
+        CHECK.index("22 below", Builds::oneReading, x -> x.mean(-1, 1, 0));
+        CHECK.index("22 above", Builds::oneReading, x -> x.mean(60, 1, 0));
+        CHECK.index("22 first of two", Builds::oneReading, x -> x.mean(60, -1, 0));
+        CHECK.argument("22 day below", Builds::oneReading, x -> x.mean(5, -1, 5));
+        CHECK.argument("22 day above", Builds::oneReading, x -> x.mean(5, 1001, 1000));
+        CHECK.argument("22 span below", Builds::oneReading, x -> x.mean(5, 1, -1));
+        CHECK.argument("22 span above", Builds::oneReading, x -> x.mean(5, 1, 1001));
         CHECK.argument("22 first of two, LAND", x -> x.land(5), x -> x.mean(5, 1, 1001));
         CHECK.state("22 LAND", x -> {
             x.land(6);
-            oneReading(x);
+            Builds.oneReading(x);
         }, x -> x.mean(6, 1, 0));
-        CHECK.state("22 no reading", MapTest::nothing, x -> x.mean(5, 1, 1000));
-        CHECK.state("22 no such day", MapTest::oneReading, x -> x.mean(5, 3, 1));
+        CHECK.state("22 no reading", Builds::nothing, x -> x.mean(5, 1, 1000));
+        CHECK.state("22 no such day", Builds::oneReading, x -> x.mean(5, 3, 1));
         CHECK.state("22 none GOOD", x -> {
-            oneReading(x);
+            Builds.oneReading(x);
             x.flag(0, GyreWatch.SPIKE);
         }, x -> x.mean(5, 1, 1));
-        CHECK.state("22 all too far", MapTest::oneReading, x -> x.mean(49, 1, 1));
+        CHECK.state("22 all too far", Builds::oneReading, x -> x.mean(49, 1, 1));
     }
 
     private static void promise23() {
@@ -186,13 +178,13 @@ public final class MapTest {
     }
 
     private static void promise23Refused() {
-        CHECK.index("23 below", MapTest::oneReading, x -> x.error(-1, 1, 0));
-        CHECK.index("23 above", MapTest::oneReading, x -> x.error(60, 1, 0));
-        CHECK.index("23 first of two", MapTest::oneReading, x -> x.error(60, 1, -1));
-        CHECK.argument("23 day below", MapTest::oneReading, x -> x.error(5, -1, 5));
-        CHECK.argument("23 day above", MapTest::oneReading, x -> x.error(5, 1001, 5));
-        CHECK.argument("23 span below", MapTest::oneReading, x -> x.error(5, 1, -1));
-        CHECK.argument("23 span above", MapTest::oneReading, x -> x.error(5, 1, 1001));
+        CHECK.index("23 below", Builds::oneReading, x -> x.error(-1, 1, 0));
+        CHECK.index("23 above", Builds::oneReading, x -> x.error(60, 1, 0));
+        CHECK.index("23 first of two", Builds::oneReading, x -> x.error(60, 1, -1));
+        CHECK.argument("23 day below", Builds::oneReading, x -> x.error(5, -1, 5));
+        CHECK.argument("23 day above", Builds::oneReading, x -> x.error(5, 1001, 5));
+        CHECK.argument("23 span below", Builds::oneReading, x -> x.error(5, 1, -1));
+        CHECK.argument("23 span above", Builds::oneReading, x -> x.error(5, 1, 1001));
         CHECK.argument("23 first of two, LAND", x -> x.land(5), x -> x.error(5, -1, 0));
         CHECK.state("23 LAND", x -> x.land(5), x -> x.error(5, 0, 0));
     }
@@ -243,14 +235,14 @@ public final class MapTest {
     }
 
     private static void promise24Refused() {
-        CHECK.index("24 no reading", MapTest::nothing, x -> x.residual(0, 0));
-        CHECK.index("24 below", MapTest::oneReading, x -> x.residual(-1, 0));
-        CHECK.index("24 above", MapTest::oneReading, x -> x.residual(1, 0));
-        CHECK.index("24 far above", MapTest::oneReading, x -> x.residual(100, 0));
-        CHECK.index("24 first of two", MapTest::oneReading, x -> x.residual(1, -1));
-        CHECK.argument("24 span below", MapTest::oneReading, x -> x.residual(0, -1));
-        CHECK.argument("24 span above", MapTest::oneReading, x -> x.residual(0, 1001));
-        CHECK.state("24 none but it", MapTest::oneReading, x -> x.residual(0, 1000));
+        CHECK.index("24 no reading", Builds::nothing, x -> x.residual(0, 0));
+        CHECK.index("24 below", Builds::oneReading, x -> x.residual(-1, 0));
+        CHECK.index("24 above", Builds::oneReading, x -> x.residual(1, 0));
+        CHECK.index("24 far above", Builds::oneReading, x -> x.residual(100, 0));
+        CHECK.index("24 first of two", Builds::oneReading, x -> x.residual(1, -1));
+        CHECK.argument("24 span below", Builds::oneReading, x -> x.residual(0, -1));
+        CHECK.argument("24 span above", Builds::oneReading, x -> x.residual(0, 1001));
+        CHECK.state("24 none but it", Builds::oneReading, x -> x.residual(0, 1000));
         CHECK.state("24 none by its span", x -> {
             x.station(1, 5);
             x.station(3, 5);

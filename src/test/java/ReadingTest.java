@@ -19,28 +19,8 @@ public final class ReadingTest {
         CHECK.end();
     }
 
-    private static void nothing(GyreWatch x) {
-    }
-
-    private static void oneReading(GyreWatch x) {
-        x.lay(5, 1, 1, 3);
-        x.pass(1);
-    }
-
-    /** A float's readings 0, 1, .. in the cell 5, each more than the one ahead by so much. */
-    private static GyreWatch readingsBy(int bound, int... more) {
-        GyreWatch x = new GyreWatch();
-        x.bound(bound);
-        x.lay(5, 1, 100, 0);
-        for (int sun : more) {
-            x.sun(0, sun);
-            x.pass(1);
-        }
-        return x;
-    }
-
     private static void promise10() {
-        GyreWatch x = readingsBy(20, 0, 50, -50);
+        GyreWatch x = Builds.readingsBy(20, 0, 50, -50);
         CHECK.due("10 before: SPIKE by itself", GyreWatch.SPIKE, x.flag(1, GyreWatch.GOOD));
         CHECK.due("10 GOOD by hand", GyreWatch.GOOD, x.ofReading(1, 4));
         CHECK.due("10 before: GOOD by hand", GyreWatch.GOOD, x.flag(1, GyreWatch.BAD));
@@ -54,18 +34,18 @@ public final class ReadingTest {
     }
 
     private static void promise10Spikes() {
-        CHECK.due("10 above both", GyreWatch.SPIKE, readingsBy(49, 0, 50, -50).ofReading(1, 4));
-        CHECK.due("10 above both by the bound", GyreWatch.GOOD, readingsBy(50, 0, 50, -50).ofReading(1, 4));
-        CHECK.due("10 below both", GyreWatch.SPIKE, readingsBy(49, 0, -50, 50).ofReading(1, 4));
-        CHECK.due("10 below both by the bound", GyreWatch.GOOD, readingsBy(50, 0, -50, 50).ofReading(1, 4));
-        CHECK.due("10 above the one behind alone", GyreWatch.GOOD, readingsBy(20, 0, 20, -50).ofReading(1, 4));
-        CHECK.due("10 above the one ahead alone", GyreWatch.GOOD, readingsBy(20, 0, 50, -20).ofReading(1, 4));
-        CHECK.due("10 below the one behind alone", GyreWatch.GOOD, readingsBy(20, 0, -20, 50).ofReading(1, 4));
-        CHECK.due("10 below the one ahead alone", GyreWatch.GOOD, readingsBy(20, 0, -50, 20).ofReading(1, 4));
-        CHECK.due("10 between", GyreWatch.GOOD, readingsBy(0, 0, 50, 50).ofReading(1, 4));
-        CHECK.due("10 the same", GyreWatch.GOOD, readingsBy(0, 0, 0, 0).ofReading(1, 4));
-        CHECK.due("10 bound 0", GyreWatch.SPIKE, readingsBy(0, 0, 1, -1).ofReading(1, 4));
-        GyreWatch x = readingsBy(20, 0, 50);
+        CHECK.due("10 above both", GyreWatch.SPIKE, Builds.readingsBy(49, 0, 50, -50).ofReading(1, 4));
+        CHECK.due("10 above both by the bound", GyreWatch.GOOD, Builds.readingsBy(50, 0, 50, -50).ofReading(1, 4));
+        CHECK.due("10 below both", GyreWatch.SPIKE, Builds.readingsBy(49, 0, -50, 50).ofReading(1, 4));
+        CHECK.due("10 below both by the bound", GyreWatch.GOOD, Builds.readingsBy(50, 0, -50, 50).ofReading(1, 4));
+        CHECK.due("10 above the one behind alone", GyreWatch.GOOD, Builds.readingsBy(20, 0, 20, -50).ofReading(1, 4));
+        CHECK.due("10 above the one ahead alone", GyreWatch.GOOD, Builds.readingsBy(20, 0, 50, -20).ofReading(1, 4));
+        CHECK.due("10 below the one behind alone", GyreWatch.GOOD, Builds.readingsBy(20, 0, -20, 50).ofReading(1, 4));
+        CHECK.due("10 below the one ahead alone", GyreWatch.GOOD, Builds.readingsBy(20, 0, -50, 20).ofReading(1, 4));
+        CHECK.due("10 between", GyreWatch.GOOD, Builds.readingsBy(0, 0, 50, 50).ofReading(1, 4));
+        CHECK.due("10 the same", GyreWatch.GOOD, Builds.readingsBy(0, 0, 0, 0).ofReading(1, 4));
+        CHECK.due("10 bound 0", GyreWatch.SPIKE, Builds.readingsBy(0, 0, 1, -1).ofReading(1, 4));
+        GyreWatch x = Builds.readingsBy(20, 0, 50);
         CHECK.due("10 none ahead", GyreWatch.GOOD, x.ofReading(0, 4));
         CHECK.due("10 none behind", GyreWatch.GOOD, x.ofReading(1, 4));
         x.sun(0, -50);
@@ -110,13 +90,13 @@ public final class ReadingTest {
     }
 
     private static void promise10Neighbours() {
-        GyreWatch x = readingsBy(20, 0, 50, -50, 50);
+        GyreWatch x = Builds.readingsBy(20, 0, 50, -50, 50);
         CHECK.due("10 up", GyreWatch.SPIKE, x.ofReading(1, 4));
         CHECK.due("10 down", GyreWatch.SPIKE, x.ofReading(2, 4));
         x.flag(0, GyreWatch.BAD);
         x.flag(2, GyreWatch.BAD);
         CHECK.due("10 whatever the flags of its neighbours", GyreWatch.SPIKE, x.ofReading(1, 4));
-        GyreWatch near = readingsBy(20, 0, 50, -10, -50);
+        GyreWatch near = Builds.readingsBy(20, 0, 50, -10, -50);
         near.flag(1, GyreWatch.BAD);
         CHECK.due("10 the nearest, BAD or not", GyreWatch.GOOD, near.ofReading(2, 4));
         GyreWatch calibrated = new GyreWatch();
@@ -134,13 +114,13 @@ public final class ReadingTest {
     }
 
     private static void promise10Refused() {
-        CHECK.index("10 no reading", ReadingTest::nothing, x -> x.flag(0, 0));
-        CHECK.index("10 below", ReadingTest::oneReading, x -> x.flag(-1, 0));
-        CHECK.index("10 above", ReadingTest::oneReading, x -> x.flag(1, 0));
-        CHECK.index("10 far above", ReadingTest::oneReading, x -> x.flag(100, 0));
-        CHECK.index("10 first of two", ReadingTest::oneReading, x -> x.flag(1, 3));
-        CHECK.argument("10 flag below", ReadingTest::oneReading, x -> x.flag(0, -2));
-        CHECK.argument("10 flag above", ReadingTest::oneReading, x -> x.flag(0, 3));
+        CHECK.index("10 no reading", Builds::nothing, x -> x.flag(0, 0));
+        CHECK.index("10 below", Builds::oneReading, x -> x.flag(-1, 0));
+        CHECK.index("10 above", Builds::oneReading, x -> x.flag(1, 0));
+        CHECK.index("10 far above", Builds::oneReading, x -> x.flag(100, 0));
+        CHECK.index("10 first of two", Builds::oneReading, x -> x.flag(1, 3));
+        CHECK.argument("10 flag below", Builds::oneReading, x -> x.flag(0, -2));
+        CHECK.argument("10 flag above", Builds::oneReading, x -> x.flag(0, 3));
     }
 
     private static void promise11() {
@@ -185,8 +165,8 @@ public final class ReadingTest {
     }
 
     private static void promise11Refused() {
-        CHECK.argument("11 below", ReadingTest::oneReading, x -> x.bound(-1));
-        CHECK.argument("11 above", ReadingTest::oneReading, x -> x.bound(1001));
+        CHECK.argument("11 below", Builds::oneReading, x -> x.bound(-1));
+        CHECK.argument("11 above", Builds::oneReading, x -> x.bound(1001));
     }
 
     private static void promise20() {
@@ -241,12 +221,12 @@ public final class ReadingTest {
     }
 
     private static void promise21Refused() {
-        CHECK.index("21 no reading", ReadingTest::nothing, x -> x.ofReading(0, 0));
-        CHECK.index("21 below", ReadingTest::oneReading, x -> x.ofReading(-1, 0));
-        CHECK.index("21 above", ReadingTest::oneReading, x -> x.ofReading(1, 0));
-        CHECK.index("21 far above", ReadingTest::oneReading, x -> x.ofReading(100, 0));
-        CHECK.index("21 first of two", ReadingTest::oneReading, x -> x.ofReading(1, 6));
-        CHECK.argument("21 what below", ReadingTest::oneReading, x -> x.ofReading(0, -1));
-        CHECK.argument("21 what above", ReadingTest::oneReading, x -> x.ofReading(0, 6));
+        CHECK.index("21 no reading", Builds::nothing, x -> x.ofReading(0, 0));
+        CHECK.index("21 below", Builds::oneReading, x -> x.ofReading(-1, 0));
+        CHECK.index("21 above", Builds::oneReading, x -> x.ofReading(1, 0));
+        CHECK.index("21 far above", Builds::oneReading, x -> x.ofReading(100, 0));
+        CHECK.index("21 first of two", Builds::oneReading, x -> x.ofReading(1, 6));
+        CHECK.argument("21 what below", Builds::oneReading, x -> x.ofReading(0, -1));
+        CHECK.argument("21 what above", Builds::oneReading, x -> x.ofReading(0, 6));
     }
 }

@@ -28,13 +28,6 @@ public final class SeaTest {
         CHECK.end();
     }
 
-    private static void nothing(GyreWatch x) {
-    }
-
-    private static void oneDay(GyreWatch x) {
-        x.pass(1);
-    }
-
     private static void promise1() {
         GyreWatch x = new GyreWatch();
         CHECK.due("1 day", 0, x.day());
@@ -54,9 +47,9 @@ public final class SeaTest {
         CHECK.due("1 bound", 100, x.bound(100));
         CHECK.due("1 tide", 0, x.tide(9));
         CHECK.due("1 LAND", 1, x.land(0));
-        CHECK.index("1 no float", SeaTest::nothing, y -> y.ofFloat(0, 0));
-        CHECK.index("1 no reading", SeaTest::nothing, y -> y.ofReading(0, 0));
-        CHECK.index("1 no search", SeaTest::nothing, y -> y.best(0));
+        CHECK.index("1 no float", Builds::nothing, y -> y.ofFloat(0, 0));
+        CHECK.index("1 no reading", Builds::nothing, y -> y.ofReading(0, 0));
+        CHECK.index("1 no search", Builds::nothing, y -> y.best(0));
     }
 
     private static void promise2() {
@@ -81,11 +74,11 @@ public final class SeaTest {
     }
 
     private static void promise2Refused() {
-        CHECK.index("2 below", SeaTest::nothing, x -> x.land(-1));
-        CHECK.index("2 above", SeaTest::nothing, x -> x.land(60));
-        CHECK.index("2 first of two", SeaTest::oneDay, x -> x.land(60));
+        CHECK.index("2 below", Builds::nothing, x -> x.land(-1));
+        CHECK.index("2 above", Builds::nothing, x -> x.land(60));
+        CHECK.index("2 first of two", Builds::oneDay, x -> x.land(60));
         CHECK.state("2 twice", x -> x.land(5), x -> x.land(5));
-        CHECK.state("2 not day 0", SeaTest::oneDay, x -> x.land(5));
+        CHECK.state("2 not day 0", Builds::oneDay, x -> x.land(5));
         CHECK.state("2 float", x -> x.lay(5, 1, 1, 0), x -> x.land(5));
         CHECK.state("2 second float", x -> {
             x.lay(4, 1, 1, 0);
@@ -178,11 +171,11 @@ public final class SeaTest {
     }
 
     private static void promise3Refused() {
-        CHECK.index("3 below", SeaTest::nothing, x -> x.current(-1, 0));
-        CHECK.index("3 above", SeaTest::nothing, x -> x.current(60, 0));
-        CHECK.index("3 first of two", SeaTest::nothing, x -> x.current(60, 5));
-        CHECK.argument("3 current below", SeaTest::nothing, x -> x.current(5, -1));
-        CHECK.argument("3 current above", SeaTest::nothing, x -> x.current(5, 5));
+        CHECK.index("3 below", Builds::nothing, x -> x.current(-1, 0));
+        CHECK.index("3 above", Builds::nothing, x -> x.current(60, 0));
+        CHECK.index("3 first of two", Builds::nothing, x -> x.current(60, 5));
+        CHECK.argument("3 current below", Builds::nothing, x -> x.current(5, -1));
+        CHECK.argument("3 current above", Builds::nothing, x -> x.current(5, 5));
     }
 
     private static void promise4() {
@@ -218,10 +211,10 @@ public final class SeaTest {
     }
 
     private static void promise4Refused() {
-        CHECK.argument("4 y below", SeaTest::nothing, x -> x.sun(-1, 0));
-        CHECK.argument("4 y above", SeaTest::nothing, x -> x.sun(6, 0));
-        CHECK.argument("4 sun below", SeaTest::nothing, x -> x.sun(0, -51));
-        CHECK.argument("4 sun above", SeaTest::nothing, x -> x.sun(0, 51));
+        CHECK.argument("4 y below", Builds::nothing, x -> x.sun(-1, 0));
+        CHECK.argument("4 y above", Builds::nothing, x -> x.sun(6, 0));
+        CHECK.argument("4 sun below", Builds::nothing, x -> x.sun(0, -51));
+        CHECK.argument("4 sun above", Builds::nothing, x -> x.sun(0, 51));
     }
 
     private static void promise5() {
@@ -290,13 +283,13 @@ public final class SeaTest {
     }
 
     private static void promise5Refused() {
-        CHECK.argument("5 none", SeaTest::nothing, x -> x.pass(0));
-        CHECK.argument("5 below 0", SeaTest::nothing, x -> x.pass(-1));
-        CHECK.argument("5 least int", SeaTest::nothing, x -> x.pass(Integer.MIN_VALUE));
-        CHECK.argument("5 too many", SeaTest::nothing, x -> x.pass(51));
+        CHECK.argument("5 none", Builds::nothing, x -> x.pass(0));
+        CHECK.argument("5 below 0", Builds::nothing, x -> x.pass(-1));
+        CHECK.argument("5 least int", Builds::nothing, x -> x.pass(Integer.MIN_VALUE));
+        CHECK.argument("5 too many", Builds::nothing, x -> x.pass(51));
         CHECK.state("5 to 1001", SeaTest::to961, x -> x.pass(40));
-        CHECK.state("5 at 1000", SeaTest::to1000, x -> x.pass(1));
-        CHECK.argument("5 first of two", SeaTest::to1000, x -> x.pass(51));
+        CHECK.state("5 at 1000", Builds::to1000, x -> x.pass(1));
+        CHECK.argument("5 first of two", Builds::to1000, x -> x.pass(51));
         GyreWatch x = new GyreWatch();
         to961(x);
         CHECK.due("5 to 1000", 1000, x.pass(39));
@@ -307,12 +300,6 @@ public final class SeaTest {
             x.pass(50);
         }
         x.pass(11);
-    }
-
-    private static void to1000(GyreWatch x) {
-        for (int i = 0; i < 20; i++) {
-            x.pass(50);
-        }
     }
 
     private static void promise15() {
@@ -337,13 +324,13 @@ public final class SeaTest {
         for (int i = 0; i < 6; i++) {
             CHECK.due("16 of LAND", 0, x.ofLayer(30, i / 3, i % 3));
         }
-        CHECK.index("16 below", SeaTest::nothing, y -> y.ofLayer(-1, 0, 0));
-        CHECK.index("16 above", SeaTest::nothing, y -> y.ofLayer(60, 0, 0));
-        CHECK.index("16 first of two", SeaTest::nothing, y -> y.ofLayer(60, 2, 3));
-        CHECK.argument("16 layer below", SeaTest::nothing, y -> y.ofLayer(0, -1, 0));
-        CHECK.argument("16 layer above", SeaTest::nothing, y -> y.ofLayer(0, 2, 0));
-        CHECK.argument("16 what below", SeaTest::nothing, y -> y.ofLayer(0, 0, -1));
-        CHECK.argument("16 what above", SeaTest::nothing, y -> y.ofLayer(0, 0, 3));
+        CHECK.index("16 below", Builds::nothing, y -> y.ofLayer(-1, 0, 0));
+        CHECK.index("16 above", Builds::nothing, y -> y.ofLayer(60, 0, 0));
+        CHECK.index("16 first of two", Builds::nothing, y -> y.ofLayer(60, 2, 3));
+        CHECK.argument("16 layer below", Builds::nothing, y -> y.ofLayer(0, -1, 0));
+        CHECK.argument("16 layer above", Builds::nothing, y -> y.ofLayer(0, 2, 0));
+        CHECK.argument("16 what below", Builds::nothing, y -> y.ofLayer(0, 0, -1));
+        CHECK.argument("16 what above", Builds::nothing, y -> y.ofLayer(0, 0, 3));
         CHECK.argument("16 what of LAND", y -> y.land(30), y -> y.ofLayer(30, 0, 3));
         CHECK.argument("16 layer of LAND", y -> y.land(30), y -> y.ofLayer(30, 2, 0));
     }
@@ -358,7 +345,7 @@ public final class SeaTest {
         CHECK.due("17 HEAT", 59 * 1400 + 9 - 20, x.total(0));
         CHECK.due("17 SALT", 59 * 710, x.total(1));
         CHECK.due("17 gift", 9 - 20, x.total(2));
-        CHECK.argument("17 below", SeaTest::nothing, y -> y.total(-1));
-        CHECK.argument("17 above", SeaTest::nothing, y -> y.total(3));
+        CHECK.argument("17 below", Builds::nothing, y -> y.total(-1));
+        CHECK.argument("17 above", Builds::nothing, y -> y.total(3));
     }
 }

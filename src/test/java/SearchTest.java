@@ -20,19 +20,6 @@ public final class SearchTest {
         CHECK.end();
     }
 
-    private static void nothing(GyreWatch x) {
-    }
-
-    private static void oneSearch(GyreWatch x) {
-        x.search(0);
-    }
-
-    private static void fourSearches(GyreWatch x) {
-        for (int i = 0; i < 4; i++) {
-            x.search(i);
-        }
-    }
-
     private static int sumOfChances(GyreWatch x, int search) {
         int sum = 0;
         for (int cell = 0; cell < 60; cell++) {
@@ -54,11 +41,11 @@ public final class SearchTest {
     }
 
     private static void promise12Refused() {
-        CHECK.index("12 below", SearchTest::nothing, x -> x.search(-1));
-        CHECK.index("12 above", SearchTest::nothing, x -> x.search(60));
+        CHECK.index("12 below", Builds::nothing, x -> x.search(-1));
+        CHECK.index("12 above", Builds::nothing, x -> x.search(60));
         CHECK.state("12 LAND", x -> x.land(5), x -> x.search(5));
-        CHECK.state("12 fifth", SearchTest::fourSearches, x -> x.search(5));
-        CHECK.index("12 first of two", SearchTest::fourSearches, x -> x.search(60));
+        CHECK.state("12 fifth", Builds::fourSearches, x -> x.search(5));
+        CHECK.index("12 first of two", Builds::fourSearches, x -> x.search(60));
     }
 
     private static void promise13() {
@@ -83,15 +70,15 @@ public final class SearchTest {
     }
 
     private static void promise13Refused() {
-        CHECK.index("13 no search", SearchTest::nothing, x -> x.leg(0, 0, 1));
-        CHECK.index("13 search below", SearchTest::oneSearch, x -> x.leg(-1, 0, 1));
-        CHECK.index("13 search above", SearchTest::oneSearch, x -> x.leg(1, 0, 1));
-        CHECK.index("13 search far above", SearchTest::oneSearch, x -> x.leg(4, 0, 1));
-        CHECK.index("13 cell below", SearchTest::oneSearch, x -> x.leg(0, -1, 1));
-        CHECK.index("13 cell above", SearchTest::oneSearch, x -> x.leg(0, 60, 1));
-        CHECK.index("13 first of two", SearchTest::oneSearch, x -> x.leg(0, 60, 0));
-        CHECK.argument("13 hundredths below", SearchTest::oneSearch, x -> x.leg(0, 0, 0));
-        CHECK.argument("13 hundredths above", SearchTest::oneSearch, x -> x.leg(0, 0, 101));
+        CHECK.index("13 no search", Builds::nothing, x -> x.leg(0, 0, 1));
+        CHECK.index("13 search below", Builds::oneSearch, x -> x.leg(-1, 0, 1));
+        CHECK.index("13 search above", Builds::oneSearch, x -> x.leg(1, 0, 1));
+        CHECK.index("13 search far above", Builds::oneSearch, x -> x.leg(4, 0, 1));
+        CHECK.index("13 cell below", Builds::oneSearch, x -> x.leg(0, -1, 1));
+        CHECK.index("13 cell above", Builds::oneSearch, x -> x.leg(0, 60, 1));
+        CHECK.index("13 first of two", Builds::oneSearch, x -> x.leg(0, 60, 0));
+        CHECK.argument("13 hundredths below", Builds::oneSearch, x -> x.leg(0, 0, 0));
+        CHECK.argument("13 hundredths above", Builds::oneSearch, x -> x.leg(0, 0, 101));
     }
 
     private static void promise25GoesOn() {
@@ -171,12 +158,12 @@ public final class SearchTest {
     }
 
     private static void promise25Refused() {
-        CHECK.index("25 no search", SearchTest::nothing, x -> x.chance(0, 0));
-        CHECK.index("25 search below", SearchTest::oneSearch, x -> x.chance(-1, 0));
-        CHECK.index("25 search above", SearchTest::oneSearch, x -> x.chance(1, 0));
-        CHECK.index("25 search far above", SearchTest::fourSearches, x -> x.chance(4, 0));
-        CHECK.index("25 cell below", SearchTest::oneSearch, x -> x.chance(0, -1));
-        CHECK.index("25 cell above", SearchTest::oneSearch, x -> x.chance(0, 60));
+        CHECK.index("25 no search", Builds::nothing, x -> x.chance(0, 0));
+        CHECK.index("25 search below", Builds::oneSearch, x -> x.chance(-1, 0));
+        CHECK.index("25 search above", Builds::oneSearch, x -> x.chance(1, 0));
+        CHECK.index("25 search far above", Builds::fourSearches, x -> x.chance(4, 0));
+        CHECK.index("25 cell below", Builds::oneSearch, x -> x.chance(0, -1));
+        CHECK.index("25 cell above", Builds::oneSearch, x -> x.chance(0, 60));
     }
 
     private static void promise26() {
@@ -194,10 +181,10 @@ public final class SearchTest {
         CHECK.due("26 of three the lowest", 21, same.best(0));
         same.leg(0, 21, 50);
         CHECK.due("26 of two the lowest", 23, same.best(0));
-        CHECK.index("26 no search", SearchTest::nothing, y -> y.best(0));
-        CHECK.index("26 below", SearchTest::oneSearch, y -> y.best(-1));
-        CHECK.index("26 above", SearchTest::oneSearch, y -> y.best(1));
-        CHECK.index("26 far above", SearchTest::fourSearches, y -> y.best(4));
+        CHECK.index("26 no search", Builds::nothing, y -> y.best(0));
+        CHECK.index("26 below", Builds::oneSearch, y -> y.best(-1));
+        CHECK.index("26 above", Builds::oneSearch, y -> y.best(1));
+        CHECK.index("26 far above", Builds::fourSearches, y -> y.best(4));
     }
 
     private static void promise27() {
@@ -222,14 +209,14 @@ public final class SearchTest {
     }
 
     private static void promise27Refused() {
-        CHECK.index("27 no search", SearchTest::nothing, x -> x.plan(0, 1, 1));
-        CHECK.index("27 search below", SearchTest::oneSearch, x -> x.plan(-1, 1, 1));
-        CHECK.index("27 search above", SearchTest::oneSearch, x -> x.plan(1, 1, 1));
-        CHECK.index("27 search far above", SearchTest::fourSearches, x -> x.plan(4, 1, 1));
-        CHECK.index("27 first of two", SearchTest::oneSearch, x -> x.plan(1, 0, 0));
-        CHECK.argument("27 legs below", SearchTest::oneSearch, x -> x.plan(0, 0, 1));
-        CHECK.argument("27 legs above", SearchTest::oneSearch, x -> x.plan(0, 21, 1));
-        CHECK.argument("27 hundredths below", SearchTest::oneSearch, x -> x.plan(0, 1, 0));
-        CHECK.argument("27 hundredths above", SearchTest::oneSearch, x -> x.plan(0, 1, 101));
+        CHECK.index("27 no search", Builds::nothing, x -> x.plan(0, 1, 1));
+        CHECK.index("27 search below", Builds::oneSearch, x -> x.plan(-1, 1, 1));
+        CHECK.index("27 search above", Builds::oneSearch, x -> x.plan(1, 1, 1));
+        CHECK.index("27 search far above", Builds::fourSearches, x -> x.plan(4, 1, 1));
+        CHECK.index("27 first of two", Builds::oneSearch, x -> x.plan(1, 0, 0));
+        CHECK.argument("27 legs below", Builds::oneSearch, x -> x.plan(0, 0, 1));
+        CHECK.argument("27 legs above", Builds::oneSearch, x -> x.plan(0, 21, 1));
+        CHECK.argument("27 hundredths below", Builds::oneSearch, x -> x.plan(0, 1, 0));
+        CHECK.argument("27 hundredths above", Builds::oneSearch, x -> x.plan(0, 1, 101));
     }
 }

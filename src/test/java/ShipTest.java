@@ -18,27 +18,6 @@ public final class ShipTest {
         CHECK.end();
     }
 
-    private static void nothing(GyreWatch x) {
-    }
-
-    private static void thirtyStations(GyreWatch x) {
-        for (int i = 0; i < 30; i++) {
-            x.station(5 + i / 15, 2 * (i % 15));
-        }
-    }
-
-    private static void twentyStorms(GyreWatch x) {
-        for (int i = 0; i < 20; i++) {
-            x.storm(1, 1);
-        }
-    }
-
-    private static void to1000(GyreWatch x) {
-        for (int i = 0; i < 20; i++) {
-            x.pass(50);
-        }
-    }
-
     private static void promise7() {
         GyreWatch x = new GyreWatch();
         CHECK.due("7 first", 1, x.station(1, 0));
@@ -78,7 +57,7 @@ public final class ShipTest {
 
     private static void promise7ThirtyToCome() {
         GyreWatch x = new GyreWatch();
-        thirtyStations(x);
+        Builds.thirtyStations(x);
         CHECK.due("7 thirty", 30, x.stations());
         x.pass(5);
         CHECK.due("7 of the next day", 15, x.stations());
@@ -87,15 +66,15 @@ public final class ShipTest {
     }
 
     private static void promise7Refused() {
-        CHECK.index("7 below", ShipTest::nothing, x -> x.station(1, -1));
-        CHECK.index("7 above", ShipTest::nothing, x -> x.station(1, 60));
-        CHECK.index("7 first of two", ShipTest::nothing, x -> x.station(0, 60));
-        CHECK.argument("7 today", ShipTest::nothing, x -> x.station(0, 5));
+        CHECK.index("7 below", Builds::nothing, x -> x.station(1, -1));
+        CHECK.index("7 above", Builds::nothing, x -> x.station(1, 60));
+        CHECK.index("7 first of two", Builds::nothing, x -> x.station(0, 60));
+        CHECK.argument("7 today", Builds::nothing, x -> x.station(0, 5));
         CHECK.argument("7 a day that was", x -> x.pass(9), x -> x.station(8, 5));
         CHECK.argument("7 today again", x -> x.pass(9), x -> x.station(9, 5));
-        CHECK.argument("7 above 1000", ShipTest::nothing, x -> x.station(1001, 5));
-        CHECK.argument("7 no later day", ShipTest::to1000, x -> x.station(1000, 5));
-        CHECK.argument("7 greatest int", ShipTest::to1000, x -> x.station(Integer.MAX_VALUE, 5));
+        CHECK.argument("7 above 1000", Builds::nothing, x -> x.station(1001, 5));
+        CHECK.argument("7 no later day", Builds::to1000, x -> x.station(1000, 5));
+        CHECK.argument("7 greatest int", Builds::to1000, x -> x.station(Integer.MAX_VALUE, 5));
         CHECK.argument("7 first of two, LAND", x -> x.land(5), x -> x.station(0, 5));
         CHECK.state("7 LAND", x -> x.land(5), x -> x.station(1, 5));
         CHECK.state("7 told", x -> x.station(3, 5), x -> x.station(3, 5));
@@ -104,10 +83,10 @@ public final class ShipTest {
             x.station(3, 5);
             x.station(2, 5);
         }, x -> x.station(4, 5));
-        CHECK.state("7 thirty to come", ShipTest::thirtyStations, x -> x.station(7, 5));
+        CHECK.state("7 thirty to come", Builds::thirtyStations, x -> x.station(7, 5));
         CHECK.state("7 thirty to come, storms or not", x -> {
             x.storm(5, 9);
-            thirtyStations(x);
+            Builds.thirtyStations(x);
         }, x -> x.station(7, 5));
         CHECK.state("7 told, in a storm", x -> {
             x.station(3, 5);
@@ -173,20 +152,20 @@ public final class ShipTest {
     }
 
     private static void promise8Refused() {
-        CHECK.argument("8 today", ShipTest::nothing, x -> x.storm(0, 5));
+        CHECK.argument("8 today", Builds::nothing, x -> x.storm(0, 5));
         CHECK.argument("8 a day that was", x -> x.pass(9), x -> x.storm(9, 12));
-        CHECK.argument("8 above 1000", ShipTest::nothing, x -> x.storm(1001, 1001));
-        CHECK.argument("8 to below from", ShipTest::nothing, x -> x.storm(5, 4));
-        CHECK.argument("8 to above 1000", ShipTest::nothing, x -> x.storm(5, 1001));
-        CHECK.argument("8 no later day", ShipTest::to1000, x -> x.storm(1000, 1000));
-        CHECK.argument("8 first of two", ShipTest::twentyStorms, x -> x.storm(5, 4));
-        CHECK.state("8 twenty told", ShipTest::twentyStorms, x -> x.storm(5, 5));
+        CHECK.argument("8 above 1000", Builds::nothing, x -> x.storm(1001, 1001));
+        CHECK.argument("8 to below from", Builds::nothing, x -> x.storm(5, 4));
+        CHECK.argument("8 to above 1000", Builds::nothing, x -> x.storm(5, 1001));
+        CHECK.argument("8 no later day", Builds::to1000, x -> x.storm(1000, 1000));
+        CHECK.argument("8 first of two", Builds::twentyStorms, x -> x.storm(5, 4));
+        CHECK.state("8 twenty told", Builds::twentyStorms, x -> x.storm(5, 5));
         CHECK.state("8 twenty told, over", x -> {
-            twentyStorms(x);
+            Builds.twentyStorms(x);
             x.pass(9);
         }, x -> x.storm(10, 10));
         CHECK.state("8 and none is cancelled", x -> {
-            twentyStorms(x);
+            Builds.twentyStorms(x);
             x.station(2, 5);
         }, x -> x.storm(2, 2));
     }

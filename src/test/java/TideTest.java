@@ -15,9 +15,6 @@ public final class TideTest {
         CHECK.end();
     }
 
-    private static void nothing(GyreWatch x) {
-    }
-
     private static void promise14() {
         GyreWatch x = new GyreWatch();
         CHECK.due("14 shortest", 1, x.part(2, 100, 1));
@@ -28,23 +25,17 @@ public final class TideTest {
         CHECK.due("14 six", 6, x.part(30, 50, 15));
     }
 
-    private static void sixParts(GyreWatch x) {
-        for (int i = 0; i < 6; i++) {
-            x.part(12, 10 + i, i);
-        }
-    }
-
     private static void promise14Refused() {
-        CHECK.argument("14 period below", TideTest::nothing, x -> x.part(1, 1, 0));
-        CHECK.argument("14 period 0", TideTest::nothing, x -> x.part(0, 1, 0));
-        CHECK.argument("14 period above", TideTest::nothing, x -> x.part(61, 1, 0));
-        CHECK.argument("14 height below", TideTest::nothing, x -> x.part(2, -1, 0));
-        CHECK.argument("14 height above", TideTest::nothing, x -> x.part(2, 101, 0));
-        CHECK.argument("14 phase below", TideTest::nothing, x -> x.part(2, 1, -1));
-        CHECK.argument("14 phase above", TideTest::nothing, x -> x.part(2, 1, 2));
-        CHECK.argument("14 phase of the period", TideTest::nothing, x -> x.part(60, 1, 60));
-        CHECK.state("14 seventh", TideTest::sixParts, x -> x.part(12, 1, 0));
-        CHECK.argument("14 first of two", TideTest::sixParts, x -> x.part(12, 1, 12));
+        CHECK.argument("14 period below", Builds::nothing, x -> x.part(1, 1, 0));
+        CHECK.argument("14 period 0", Builds::nothing, x -> x.part(0, 1, 0));
+        CHECK.argument("14 period above", Builds::nothing, x -> x.part(61, 1, 0));
+        CHECK.argument("14 height below", Builds::nothing, x -> x.part(2, -1, 0));
+        CHECK.argument("14 height above", Builds::nothing, x -> x.part(2, 101, 0));
+        CHECK.argument("14 phase below", Builds::nothing, x -> x.part(2, 1, -1));
+        CHECK.argument("14 phase above", Builds::nothing, x -> x.part(2, 1, 2));
+        CHECK.argument("14 phase of the period", Builds::nothing, x -> x.part(60, 1, 60));
+        CHECK.state("14 seventh", Builds::sixParts, x -> x.part(12, 1, 0));
+        CHECK.argument("14 first of two", Builds::sixParts, x -> x.part(12, 1, 12));
     }
 
     private static void promise28() {
@@ -71,8 +62,8 @@ public final class TideTest {
     }
 
     private static void promise28Refused() {
-        CHECK.argument("28 below", TideTest::sixParts, x -> x.tide(-1));
-        CHECK.argument("28 above", TideTest::sixParts, x -> x.tide(100001));
+        CHECK.argument("28 below", Builds::sixParts, x -> x.tide(-1));
+        CHECK.argument("28 above", Builds::sixParts, x -> x.tide(100001));
     }
 
     private static void promise29() {
@@ -96,12 +87,12 @@ public final class TideTest {
     }
 
     private static void promise29Refused() {
-        CHECK.argument("29 from below", TideTest::sixParts, x -> x.highest(-1, 5));
-        CHECK.argument("29 from above", TideTest::sixParts, x -> x.highest(100001, 100001));
-        CHECK.argument("29 to below", TideTest::sixParts, x -> x.highest(5, 4));
-        CHECK.argument("29 to above", TideTest::sixParts, x -> x.highest(5, 506));
-        CHECK.argument("29 to above all", TideTest::sixParts, x -> x.highest(99999, 100001));
-        CHECK.argument("29 greatest int", TideTest::sixParts, x -> x.highest(Integer.MAX_VALUE, Integer.MAX_VALUE));
-        CHECK.argument("29 least int", TideTest::sixParts, x -> x.highest(Integer.MIN_VALUE, 0));
+        CHECK.argument("29 from below", Builds::sixParts, x -> x.highest(-1, 5));
+        CHECK.argument("29 from above", Builds::sixParts, x -> x.highest(100001, 100001));
+        CHECK.argument("29 to below", Builds::sixParts, x -> x.highest(5, 4));
+        CHECK.argument("29 to above", Builds::sixParts, x -> x.highest(5, 506));
+        CHECK.argument("29 to above all", Builds::sixParts, x -> x.highest(99999, 100001));
+        CHECK.argument("29 greatest int", Builds::sixParts, x -> x.highest(Integer.MAX_VALUE, Integer.MAX_VALUE));
+        CHECK.argument("29 least int", Builds::sixParts, x -> x.highest(Integer.MIN_VALUE, 0));
     }
 }
