@@ -16,8 +16,9 @@ final class MapEdges {
         edges.edge("Maps", "and at most the span of days away from the day", MapEdges::spans);
         edges.edge("Maps", "each weighs 8 less how far its cell is in x and in y, together, if that is above 0",
                 MapEdges::weights);
-        edges.edge("Maps", "The mean of a map is the sum of their CORRECTED values, each times its weight, divided by",
-                MapEdges::meanBelow0);
+        edges.edge("Maps", "The mean of a map is the sum of their CORRECTED values, each times its weight",
+                MapEdges::meanBeyondAnInt);
+        edges.edge("Maps", "each times its weight, divided by the sum of weights", MapEdges::meanBelow0);
         edges.edge("Maps", "its error is 1000, divided by 1 and the sum of weights, together", MapEdges::errors);
         edges.edge("Maps", "To leave a reading out is to make the map of its cell and day without it",
                 MapEdges::withoutIt);
@@ -159,6 +160,33 @@ final class MapEdges {
         twoReadings(x);
         x.calibrate(0);
         check.due("CORRECTED", 1000, x.mean(5, 1, 0));
+    }
+
+    /** All that is warm comes to one cell: a hundred readings of millions, each of them 8 times. */
+    private static void meanBeyondAnInt(Check check) {
+        GyreWatch x = new GyreWatch();
+        for (int cell = 0; cell < 59; cell++) {
+            x.current(cell, cell % 10 < 9 ? 1 : 3);
+        }
+        for (int y = 0; y < 6; y++) {
+            x.sun(y, 50);
+        }
+        for (int i = 0; i < 19; i++) {
+            x.pass(50);
+        }
+        x.pass(37);
+        for (int i = 0; i < 8; i++) {
+            x.lay(59, 1, 100, 0);
+        }
+        x.pass(13);
+        long sum = 0;
+        for (int i = 0; i < 100; i++) {
+            sum += x.ofReading(i, 2);
+        }
+        check.due("a hundred", 100, x.readings());
+        check.due("beyond an int", 1, sum * 8 > Integer.MAX_VALUE ? 1 : 0);
+        check.due("its mean", sum / 100, x.mean(59, 1000, 20));
+        check.due("its error", 1, x.error(59, 1000, 20));
     }
 
     private static void errors(Check check) {

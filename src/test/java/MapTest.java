@@ -10,7 +10,6 @@ public final class MapTest {
         promise22Spans();
         promise22Flags();
         promise22Below0();
-        promise22BeyondAnInt();
         promise22Refused();
         promise23();
         promise23Refused();
@@ -104,33 +103,6 @@ public final class MapTest {
         x.pass(1);
         CHECK.due("22 below 0", -50, x.ofReading(0, 2));
         CHECK.due("22 rounded towards 0", -48, x.mean(5, 51, 0));
-    }
-
-    /** All that is warm comes to one cell: a hundred readings of millions, each of them 8 times. */
-    private static void promise22BeyondAnInt() {
-        GyreWatch x = new GyreWatch();
-        for (int cell = 0; cell < 59; cell++) {
-            x.current(cell, cell % 10 < 9 ? 1 : 3);
-        }
-        for (int y = 0; y < 6; y++) {
-            x.sun(y, 50);
-        }
-        for (int i = 0; i < 19; i++) {
-            x.pass(50);
-        }
-        x.pass(37);
-        for (int i = 0; i < 8; i++) {
-            x.lay(59, 1, 100, 0);
-        }
-        x.pass(13);
-        long sum = 0;
-        for (int i = 0; i < 100; i++) {
-            sum += x.ofReading(i, 2);
-        }
-        CHECK.due("22 a hundred", 100, x.readings());
-        CHECK.due("22 beyond an int", 1, sum * 8 > Integer.MAX_VALUE ? 1 : 0);
-        CHECK.due("22 its mean", sum / 100, x.mean(59, 1000, 20));
-        CHECK.due("22 its error", 1, x.error(59, 1000, 20));
     }
 
     private static void promise22Refused() {
